@@ -1337,7 +1337,7 @@ public final class BumpsRiver {
         }
 
         private int peek() {
-            return pos < RULE_ROOM ? text.signAt(pos) : NONE;
+            return pos < RULE_ROOM && pos < text.length ? text.signs[pos] : NONE;
         }
 
         private boolean readExpression(int deep) {
@@ -1608,44 +1608,41 @@ public final class BumpsRiver {
         }
 
         int touchedBy(int boat) {
-            for (int i = 0; i < pairs; i++) {
-                if (toucher[i] == boat) {
-                    return touched[i];
-                }
-            }
-            return NONE;
+            int pair = pairOf(toucher, boat);
+            return pair >= 0 ? touched[pair] : NONE;
         }
 
         int toucherOf(int boat) {
-            for (int i = 0; i < pairs; i++) {
-                if (touched[i] == boat) {
-                    return toucher[i];
-                }
-            }
-            return NONE;
+            int pair = pairOf(touched, boat);
+            return pair >= 0 ? toucher[pair] : NONE;
         }
 
         int strokeBy(int boat) {
+            int pair = pairOf(toucher, boat);
+            return pair >= 0 ? strokeOf[pair] : NONE;
+        }
+
+        private int pairOf(int[] side, int boat) {
             for (int i = 0; i < pairs; i++) {
-                if (toucher[i] == boat) {
-                    return strokeOf[i];
+                if (side[i] == boat) {
+                    return i;
                 }
             }
             return NONE;
         }
 
         int touchers() {
-            int bits = 0;
-            for (int i = 0; i < pairs; i++) {
-                bits |= 1 << toucher[i];
-            }
-            return bits;
+            return bitsOf(toucher);
         }
 
         int touchedOnes() {
+            return bitsOf(touched);
+        }
+
+        private int bitsOf(int[] side) {
             int bits = 0;
             for (int i = 0; i < pairs; i++) {
-                bits |= 1 << touched[i];
+                bits |= 1 << side[i];
             }
             return bits;
         }
@@ -1736,6 +1733,7 @@ public final class BumpsRiver {
             }
         }
 
+        /** Six days are enough for every order of six: neighbours that change on even, then on odd places sort any. */
         private void findDays() {
             for (int number = 0; number < orders; number++) {
                 soonestDay[number] = NONE;
