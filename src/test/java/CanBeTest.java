@@ -104,6 +104,7 @@ public final class CanBeTest {
         CHECK.due("soonest(012;)", soonest(river, "012;"), -4);
         CHECK.due("soonest(x)", soonest(river, "x"), -1);
         CHECK.due("soonest(00x)", soonest(river, "00x"), -2);
+        CHECK.due("soonest(x120)", soonest(river, "x120"), -1);
         CHECK.due("wrong: the text is empty", river.count(10), 0);
         river.scratches(0);
         CHECK.due("from how they stand", soonest(river, "120"), 0);
@@ -122,6 +123,9 @@ public final class CanBeTest {
         CHECK.both("crossed(021)", river, crossed(river, "021"), 1, 1, 1);
         CHECK.both("crossed(210)", river, crossed(river, "210"), 3, 0, 2);
         CHECK.both("crossed(201)", river, crossed(river, "201"), 2, 2, 2);
+        CHECK.due("crossed()", crossed(river, ""), -1);
+        CHECK.due("crossed(3)", crossed(river, "312"), -1);
+        CHECK.due("crossed(x12x)", crossed(river, "x12x"), -1);
         CHECK.due("crossed(01)", crossed(river, "01"), -3);
         CHECK.due("crossed(011)", crossed(river, "011"), -3);
         CHECK.due("crossed(0121)", crossed(river, "0121"), -4);
@@ -148,6 +152,7 @@ public final class CanBeTest {
         CHECK.due("the text is empty", river.count(10), 0);
         CHECK.due("chart()", chart(river, ""), -1);
         CHECK.due("chart(012;)", chart(river, "012;"), -5);
+        CHECK.due("wrong: the text is empty", river.count(10), 0);
         CHECK.due("chart(0121)", chart(river, "0121"), -4);
         CHECK.due("chart(210;01;)", chart(river, "210;01;"), -7);
         CHECK.due("chart(012;012x)", chart(river, "012;012x"), -8);

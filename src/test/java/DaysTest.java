@@ -165,6 +165,8 @@ public final class DaysTest {
         CHECK.due("the rest, undone", river.count(1) + " " + river.count(2) + " " + river.count(3) + " "
             + river.count(4) + " " + river.boat(0, 0), "9 20 0 0 3");
 
+        CHECK.both("the head scratches", river, Check.week(river, "s0"), 1, 0, 0);
+        river.undo();
         CHECK.both("one refused", river, Check.week(river, "n2s9n1"), 1, 1, 2);
         CHECK.due("what was done can be undone", river.count(8), 1);
         CHECK.both("first one refused", river, Check.week(river, "g00n1"), 0, 1, 2);

@@ -27,6 +27,8 @@ public final class PacesTest {
         CHECK.due("spurs(3)", river.spurs(3), -1);
         CHECK.due("spurs(-1)", river.spurs(-1), -1);
         CHECK.due("PACE stays", river.boat(2, 0) + river.boat(1, 0), 9);
+        BumpsRiver fast = Check.with("80;10");
+        CHECK.both("9 is needed", fast, fast.spurs(1), 9, 0, 9);
         BumpsRiver slow = Check.with("90;10");
         CHECK.due("9 is too little", slow.spurs(1), -2);
         Check.rule(slow, "i*20");
@@ -52,6 +54,8 @@ public final class PacesTest {
         BumpsRiver river = Check.with("10;20");
         CHECK.both("differ(20, 21)", river, river.differ(20, 21), 1, 0, 1, 0);
         CHECK.both("differ(21, 20)", river, river.differ(21, 20), 1, 0, 0, 1);
+        CHECK.both("differ(1, 30)", river, river.differ(1, 30), 1, 0, 1, 0);
+        CHECK.both("differ(30, 1)", river, river.differ(30, 1), 1, 0, 0, 1);
         CHECK.due("differ(21, 22)", river.differ(21, 22), -2);
         CHECK.due("differ(5, 5)", river.differ(5, 5), -2);
         CHECK.row("behind none: the row stays", river, 0, 0, 1);
@@ -80,6 +84,9 @@ public final class PacesTest {
         // whoever is rested, boat 0 loses its place: the first one is told
         BumpsRiver lost = Check.with("11;91");
         CHECK.both("of equal ones the first", lost, lost.helps(0, 1), 0, 1, 1);
+        // boat 0 itself: tired it is touched, rested it is not
+        BumpsRiver itself = Check.with("59;40");
+        CHECK.both("itself", itself, itself.helps(0, 1), 0, 0, 1);
         // boat 2, if it is rested, touches boat 1 before that one touches boat 0
         BumpsRiver saved = Check.with("30;40;99");
         Check.rule(saved, "p-x");
@@ -149,6 +156,8 @@ public final class PacesTest {
         CHECK.row("none fits: the row stays", river, 1);
         BumpsRiver tired = Check.with("50;55");
         CHECK.both("by TIRED", tired, tired.asks(), 11, 1);
+        BumpsRiver nines = Check.with("80;90");
+        CHECK.both("by the greatest PACE", nines, nines.asks(), 9, 1);
         BumpsRiver places = Check.with("50;50;50;50");
         CHECK.both("by PLACE", places, places.asks(), 21, 2);
         CHECK.due("no boats", new BumpsRiver().asks(), -2);
@@ -251,6 +260,14 @@ public final class PacesTest {
         }
         CHECK.due("nothing changes", river.count(3) + river.count(4) + river.count(8), 0);
         CHECK.due("PACES stay", river.count(5), 12);
+        BumpsRiver one = Check.with("30");
+        PlainRiver plainOne = new PlainRiver();
+        plainOne.text = "30";
+        plainOne.call("boats");
+        for (int seed = 0; seed < 20; seed++) {
+            CHECK.due("years of one boat", (long) one.years(seed, 30), plainOne.call("years", seed, 30));
+            CHECK.row("its row", one, plainOne.row.get(0), plainOne.row.get(1));
+        }
         BumpsRiver none = new BumpsRiver();
         CHECK.both("without boats", none, none.years(7, 60), -1, 0, 0);
     }

@@ -75,6 +75,10 @@ public final class RaceTest {
         Check.rule(two, "(i=0)*5+(i>0)*g/3");
         CHECK.due("at once", two.lies(1, 1), 994);
         CHECK.due("at once, again", two.lies(1, 2), 997);
+        CHECK.due("by what g is then", two.lies(1, 3), 1001);
+        Check.rule(two, "(i>0)*4+(i=0)*b/3");
+        CHECK.due("b at first", two.lies(0, 1), 1003);
+        CHECK.due("b is less then", two.lies(0, 3), 1007);
     }
 
     private static void over() {
@@ -222,6 +226,8 @@ public final class RaceTest {
         CHECK.due("round, day 60", river.round(), 60);
         river = river("96;81;81;67;99;97", "p*(n<x)+i-x/2", 26, 14);
         CHECK.due("round, day 61", river.round(), -2);
+        river = river("19;61;75;62;12;27", "p+(x*n+i)*7/5-x*2", 10, 37);
+        CHECK.due("round, sixty different orders", river.round(), -2);
         river = river("48;65;46;30;51;67", "p-x/2+(n=3)*i", 9, 24);
         CHECK.due("differ, day 60", river.differ(9, 7), 60);
         river = river("17;71;44;21;19;84", "(p*n+x*3)/9", 28, 31);
