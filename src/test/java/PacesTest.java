@@ -84,6 +84,11 @@ public final class PacesTest {
         // whoever is rested, boat 0 loses its place: the first one is told
         BumpsRiver lost = Check.with("11;91");
         CHECK.both("of equal ones the first", lost, lost.helps(0, 1), 0, 1, 1);
+        // to rest one that is tired by 1 is enough
+        BumpsRiver barely = Check.with("10;31");
+        Check.rule(barely, "p-x");
+        barely.gap(30);
+        CHECK.both("TIRED 1", barely, barely.helps(1, 1), 1, 0, 1);
         // boat 0 itself: tired it is touched, rested it is not
         BumpsRiver itself = Check.with("59;40");
         CHECK.both("itself", itself, itself.helps(0, 1), 0, 0, 1);
