@@ -112,10 +112,6 @@ public final class BoatsTest {
         }
     }
 
-    private static String times(String part, int n) {
-        return new String(new char[n]).replace("\0", part);
-    }
-
     private static void ruleFaults() {
         ruleFault(" ", -1);
         ruleFault("P", -1);
@@ -150,16 +146,16 @@ public final class BoatsTest {
         ruleFault("(((p+(x)+((p)))))", -11);
         ruleFault("p" + (char) 0, -2);
         ruleFault("p" + (char) 255, -2);
-        ruleFault("1" + times("+1", 19), 0);
-        ruleFault("11" + times("+1", 19), 0);
-        ruleFault("111" + times("+1", 19), -41);
-        ruleFault("11" + times("+1", 19) + "+", -41);
-        ruleFault("11" + times("+1", 19) + "z", -41);
-        ruleFault("1" + times("+1", 19) + "+", -41);
-        ruleFault("1z" + times("+1", 19) + "+", -2);
-        ruleFault(times("-", 39) + "p", 0);
-        ruleFault(times("-", 40), -41);
-        ruleFault(times("-", 41) + "p", -41);
+        ruleFault("1" + Check.times("+1", 19), 0);
+        ruleFault("11" + Check.times("+1", 19), 0);
+        ruleFault("111" + Check.times("+1", 19), -41);
+        ruleFault("11" + Check.times("+1", 19) + "+", -41);
+        ruleFault("11" + Check.times("+1", 19) + "z", -41);
+        ruleFault("1" + Check.times("+1", 19) + "+", -41);
+        ruleFault("1z" + Check.times("+1", 19) + "+", -2);
+        ruleFault(Check.times("-", 39) + "p", 0);
+        ruleFault(Check.times("-", 40), -41);
+        ruleFault(Check.times("-", 41) + "p", -41);
         ruleFault("", 0);
     }
 

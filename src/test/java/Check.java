@@ -39,6 +39,43 @@ final class Check {
         }
     }
 
+    int checked() {
+        return checked;
+    }
+
+    /** Boats from the head on. */
+    static String order(BumpsRiver river) {
+        StringBuilder order = new StringBuilder();
+        for (int place = 0; place < river.count(0); place++) {
+            order.append(river.at(place));
+        }
+        return order.toString();
+    }
+
+    /** What undo() brings back. */
+    static String state(BumpsRiver river) {
+        StringBuilder state = new StringBuilder();
+        for (int what = 0; what < 7; what++) {
+            state.append(river.count(what)).append(' ');
+        }
+        for (int boat = 0; boat < river.count(0); boat++) {
+            state.append(river.boat(boat, 0)).append(river.boat(boat, 1)).append(river.boat(boat, 2)).append(' ');
+        }
+        return state.toString();
+    }
+
+    /** All that can be seen of a river without changing it. */
+    static String whole(BumpsRiver river) {
+        StringBuilder whole = new StringBuilder(state(river));
+        for (int what = 7; what <= 10; what++) {
+            whole.append(river.count(what)).append(' ');
+        }
+        for (int boat = 0; boat < river.count(0); boat++) {
+            whole.append(river.boat(boat, 4)).append(river.boat(boat, 5)).append(' ');
+        }
+        return whole.append(rowOf(river)).toString();
+    }
+
     static String rowOf(BumpsRiver river) {
         long[] row = new long[river.count(9)];
         for (int i = 0; i < row.length; i++) {
@@ -67,6 +104,28 @@ final class Check {
         return river;
     }
 
+    static BumpsRiver with(String boats, String rule) {
+        BumpsRiver river = with(boats);
+        ruled(river, rule);
+        return river;
+    }
+
+    /** A rule that the test means to be a fine one. */
+    static void ruled(BumpsRiver river, String rule) {
+        if (rule(river, rule) != 0) {
+            throw new IllegalStateException("a wrong rule in a test: " + rule);
+        }
+    }
+
+    /** The first n of six boats, each of another pace. */
+    static BumpsRiver first(int n) {
+        return with("10;20;30;40;50;60".substring(0, Math.max(0, 3 * n - 1)));
+    }
+
+    static String times(String part, int n) {
+        return new String(new char[n]).replace("\0", part);
+    }
+
     static int rule(BumpsRiver river, String text) {
         say(river, text);
         return river.rule();
@@ -80,6 +139,26 @@ final class Check {
     static int week(BumpsRiver river, String text) {
         say(river, text);
         return river.week();
+    }
+
+    static int soonest(BumpsRiver river, String text) {
+        say(river, text);
+        return river.soonest();
+    }
+
+    static int crossed(BumpsRiver river, String text) {
+        say(river, text);
+        return river.crossed();
+    }
+
+    static int chart(BumpsRiver river, String text) {
+        say(river, text);
+        return river.chart();
+    }
+
+    static int law(BumpsRiver river, String text) {
+        say(river, text);
+        return river.law();
     }
 
     static long boat(BumpsRiver river, int boat, int what) {

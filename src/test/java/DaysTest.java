@@ -18,26 +18,18 @@ public final class DaysTest {
         CHECK.finish();
     }
 
-    private static String order(BumpsRiver river) {
-        StringBuilder order = new StringBuilder();
-        for (int place = 0; place < river.count(0); place++) {
-            order.append(river.at(place));
-        }
-        return order.toString();
-    }
-
     private static void days() {
         // boat 1 touches boat 0 on the first day, boat 2 boat 0 on the second one
         BumpsRiver river = Check.with("30;50;40");
         CHECK.both("days(0)", river, river.days(0), 0, 0);
         CHECK.due("days(0) can be undone", river.count(8), 1);
         CHECK.both("days(1)", river, river.days(1), 1, 1);
-        CHECK.due("order", order(river), "102");
+        CHECK.due("order", Check.order(river), "102");
         CHECK.due("TIRED", river.boat(0, 1) + " " + river.boat(1, 1) + " " + river.boat(2, 1), "0 0 1");
         CHECK.due("DAY", river.count(3), 1);
         CHECK.due("TOUCHES", river.count(4), 1);
         CHECK.both("days(1) again", river, river.days(1), 1, 1);
-        CHECK.due("order", order(river), "120");
+        CHECK.due("order", Check.order(river), "120");
         CHECK.due("TIRED", river.boat(0, 1) + " " + river.boat(1, 1) + " " + river.boat(2, 1), "0 1 0");
         CHECK.due("TOUCHES", river.count(4), 2);
         CHECK.due("days(61)", river.days(61), -2);
@@ -48,7 +40,7 @@ public final class DaysTest {
 
         BumpsRiver both = Check.with("30;50;40");
         CHECK.both("two days at once", both, both.days(2), 1, 2);
-        CHECK.due("order", order(both), "120");
+        CHECK.due("order", Check.order(both), "120");
 
         BumpsRiver none = new BumpsRiver();
         CHECK.both("days without boats", none, none.days(60), -1, 0);
@@ -74,7 +66,7 @@ public final class DaysTest {
         BumpsRiver river = Check.with("10;10;10;10;10;10");
         Check.rule(river, ODD_ONES_TOUCH);
         river.days(1);
-        CHECK.due("three pairs change", order(river), "103254");
+        CHECK.due("three pairs change", Check.order(river), "103254");
         CHECK.due("three TOUCHES", river.count(4), 3);
         for (int i = 0; i < 55; i++) {
             river.days(60);
@@ -94,12 +86,12 @@ public final class DaysTest {
     private static void scratches() {
         BumpsRiver river = Check.with("30;50;40;20");
         CHECK.due("scratches(1)", river.scratches(1), 1);
-        CHECK.due("order", order(river), "0231");
+        CHECK.due("order", Check.order(river), "0231");
         CHECK.due("scratches(1), the last", river.scratches(1), -2);
         CHECK.due("scratches(0)", river.scratches(0), 0);
-        CHECK.due("order", order(river), "2310");
+        CHECK.due("order", Check.order(river), "2310");
         CHECK.due("scratches(1), last but one", river.scratches(1), 2);
-        CHECK.due("order", order(river), "2301");
+        CHECK.due("order", Check.order(river), "2301");
         CHECK.due("scratches(4)", river.scratches(4), -1);
         CHECK.due("scratches(-1)", river.scratches(-1), -1);
         CHECK.due("to undo", river.count(8), 3);
@@ -153,7 +145,7 @@ public final class DaysTest {
     private static void week() {
         BumpsRiver river = Check.with("30;50;40");
         CHECK.both("a week", river, Check.week(river, "n1s0r2p05g05k07"), 6, 0, 1);
-        CHECK.due("order", order(river), "120");
+        CHECK.due("order", Check.order(river), "120");
         CHECK.due("TIRED", river.boat(2, 1), 0);
         CHECK.due("PACE", river.boat(0, 0), 5);
         CHECK.due("GAP", river.count(1), 5);
@@ -161,7 +153,7 @@ public final class DaysTest {
         CHECK.due("one to undo", river.count(8), 1);
         CHECK.due("the text is empty", river.count(10), 0);
         CHECK.due("undo", river.undo(), 0);
-        CHECK.due("order, undone", order(river), "012");
+        CHECK.due("order, undone", Check.order(river), "012");
         CHECK.due("the rest, undone", river.count(1) + " " + river.count(2) + " " + river.count(3) + " "
             + river.count(4) + " " + river.boat(0, 0), "9 20 0 0 3");
 
@@ -234,9 +226,9 @@ public final class DaysTest {
         CHECK.due("undo paces", river.undo() + " " + river.boat(1, 0), "3 5");
         int rested = river.boat(0, 1);
         CHECK.due("undo rests", river.undo() + " " + rested + " " + river.boat(0, 1), "2 0 3");
-        CHECK.due("undo scratches", river.undo() + " " + order(river), "1 120");
+        CHECK.due("undo scratches", river.undo() + " " + Check.order(river), "1 120");
         river.sheet(3, 0, 0, 0);
-        CHECK.due("undo days", river.undo() + " " + order(river) + " " + river.count(3) + river.count(4)
+        CHECK.due("undo days", river.undo() + " " + Check.order(river) + " " + river.count(3) + river.count(4)
             + " " + river.count(5) + " " + river.count(6), "0 012 00 12 5");
         CHECK.due("undo, none left", river.undo(), -1);
         CHECK.due("what was heard stays", river.count(7), 1);

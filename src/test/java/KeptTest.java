@@ -12,24 +12,13 @@ public final class KeptTest {
         CHECK.finish();
     }
 
-    private static String state(BumpsRiver river) {
-        StringBuilder state = new StringBuilder();
-        for (int what = 0; what < 7; what++) {
-            state.append(river.count(what)).append(' ');
-        }
-        for (int boat = 0; boat < river.count(0); boat++) {
-            state.append(river.boat(boat, 0)).append(river.boat(boat, 1)).append(river.boat(boat, 2)).append(' ');
-        }
-        return state.toString();
-    }
-
     private static void keepAndAgain() {
         BumpsRiver river = Check.with("31;50;40");
         CHECK.due("again(0), nothing kept", river.again(0), false);
-        String first = state(river);
+        String first = Check.state(river);
         CHECK.due("keep(0)", river.keep(0), true);
         Check.week(river, "n3s1r2p27g05k30n2");
-        String then = state(river);
+        String then = Check.state(river);
         CHECK.due("keep(2)", river.keep(2), true);
         CHECK.due("keep(3)", river.keep(3), false);
         CHECK.due("keep(-1)", river.keep(-1), false);
@@ -38,17 +27,17 @@ public final class KeptTest {
         CHECK.due("again(-1)", river.again(-1), false);
         CHECK.due("refused: can be undone", river.count(8), 1);
         CHECK.due("again(0)", river.again(0), true);
-        CHECK.due("as it was", state(river), first);
+        CHECK.due("as it was", Check.state(river), first);
         CHECK.due("none can be undone", river.count(8), 0);
         CHECK.due("again(2)", river.again(2), true);
-        CHECK.due("as it was then", state(river), then);
+        CHECK.due("as it was then", Check.state(river), then);
         river.days(3);
         CHECK.due("again(2), once more", river.again(2), true);
-        CHECK.due("as it was then", state(river), then);
+        CHECK.due("as it was then", Check.state(river), then);
         river.keep(0);
         river.gap(6);
         river.again(0);
-        CHECK.due("kept anew", state(river), then);
+        CHECK.due("kept anew", Check.state(river), then);
         Check.boats(river, "");
         CHECK.due("no boats came", river.again(0), true);
         Check.boats(river, "5");

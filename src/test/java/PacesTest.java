@@ -210,27 +210,22 @@ public final class PacesTest {
         CHECK.due("no row", river.count(9), 0);
     }
 
-    private static int law(BumpsRiver river, String text) {
-        Check.say(river, text);
-        return river.law();
-    }
-
     private static void law() {
         BumpsRiver river = Check.with("30;50;40");
-        CHECK.both("law(0)", river, law(river, "0"), -1, 0, 1, 0, 1, 2);
-        CHECK.both("law()", river, law(river, ""), 0, 1, 1, 1, 0, 2);
-        CHECK.both("law(i*9)", river, law(river, "i*9"), 0, 1, 1, 1, 0, 2);
+        CHECK.both("law(0)", river, Check.law(river, "0"), -1, 0, 1, 0, 1, 2);
+        CHECK.both("law()", river, Check.law(river, ""), 0, 1, 1, 1, 0, 2);
+        CHECK.both("law(i*9)", river, Check.law(river, "i*9"), 0, 1, 1, 1, 0, 2);
         Check.rule(river, "0");
-        CHECK.both("law(), by another rule", river, law(river, ""), 1, 1, 0, 1, 0, 2);
+        CHECK.both("law(), by another rule", river, Check.law(river, ""), 1, 1, 0, 1, 0, 2);
         CHECK.due("the rule stays", river.race(), 0);
-        CHECK.due("law(z)", law(river, "z"), -10000);
-        CHECK.due("law(p+)", law(river, "p+"), -10002);
-        CHECK.due("law, too long", law(river, new String(new char[41]).replace('\0', '-')), -10040);
+        CHECK.due("law(z)", Check.law(river, "z"), -10000);
+        CHECK.due("law(p+)", Check.law(river, "p+"), -10002);
+        CHECK.due("law, too long", Check.law(river, new String(new char[41]).replace('\0', '-')), -10040);
         CHECK.due("the text is empty", river.count(10), 0);
         CHECK.due("the rule stays", river.race(), 0);
         CHECK.due("nothing changes", river.count(3) + river.count(4) + river.at(0), 0);
         BumpsRiver none = new BumpsRiver();
-        CHECK.both("without boats", none, law(none, "p"), 0, 0, 0);
+        CHECK.both("without boats", none, Check.law(none, "p"), 0, 0, 0);
     }
 
     private static void crews() {
