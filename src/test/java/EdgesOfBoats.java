@@ -181,6 +181,8 @@ final class EdgesOfBoats {
         ruleOf("", 0);
         BumpsRiver river = Check.with("54", "7");
         s.due("by 7", river.lies(0, 1), 1007);
+        Check.ruled(river, "8");
+        s.due("by 8", river.lies(0, 1), 1008);
         Check.ruled(river, "");
         s.due("by none", river.lies(0, 1), 1004);
         Check.ruled(river, "p+x");
@@ -248,6 +250,7 @@ final class EdgesOfBoats {
         s.says("4: the one that it would TOUCH on this DAY (NONE)");
         BumpsRiver six = Check.with(SIX, EdgesOfTerms.ODD_ONES_TOUCH);
         s.due("who touches", six.boat(5, 4), 4);
+        s.due("the second one", six.boat(1, 4), 0);
         s.due("who is touched", six.boat(4, 4), -1);
         Check.ruled(six, "0");
         s.due("none touches", six.boat(5, 4), -1);
@@ -256,6 +259,7 @@ final class EdgesOfBoats {
         s.due("none touches", six.boat(4, 5), -1);
         Check.ruled(six, EdgesOfTerms.ODD_ONES_TOUCH);
         s.due("who is touched", six.boat(4, 5), 5);
+        s.due("the head", six.boat(0, 5), 1);
         s.due("who touches", six.boat(5, 5), -1);
         // boat 2 touches boat 1; then boat 3 touches boat 0, which is not the next one ahead by places
         BumpsRiver four = Check.with("10;10;10;10", "(i=0)*9+(i>1)*20");

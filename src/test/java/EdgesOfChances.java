@@ -257,7 +257,7 @@ final class EdgesOfChances {
         yearsAre("30;50;40", seed, 1);
         yearsAre("30;50;40", seed, 30);
         for (int each = 0; each < 30; each++) {
-            yearsAre("30", each * 77773, 30);
+            yearsAre("30", each * 77773, 6);
             yearsAre("90;50", each * 77773, 1);
         }
         BumpsRiver none = new BumpsRiver();

@@ -40,6 +40,11 @@ final class EdgesOfCharts {
             BumpsRiver river = Check.first(n);
             s.both("of " + n, river, river.sets(), sets[n], most[n], such[n]);
         }
+        BumpsRiver oneByOne = new BumpsRiver();
+        for (int n = 0; n <= 6; n++) {
+            s.both("of " + n + ", one by one", oneByOne, oneByOne.sets(), sets[n], most[n], such[n]);
+            Check.boats(oneByOne, "11");
+        }
     }
 
     private void orders() {
@@ -139,7 +144,8 @@ final class EdgesOfCharts {
         Object[][] absent = {{"3", -1}, {"9", -1}, {"031", -2}, {"013", -3}, {"01x", -3}, {"x12", -1}, {"/12", -1},
             {":12", -1}, {"0;1", -2}};
         Object[][] twice = {{"00", -2}, {"010", -3}, {"011", -3}, {"122", -3}, {"00x", -2}};
-        Object[][] many = {{"0120", -4}, {"0123", -4}, {"012x", -4}, {"2101", -4}, {"0120;", -4}};
+        Object[][] many = {{"0120", -4}, {"0123", -4}, {"012x", -4}, {"2101", -4}, {"0120;", -4},
+            {"x120", -1}, {"0010", -2}};
         s.says("its end, if it ends too early");
         each(call, reader, early);
         BumpsRiver cut = Check.first(3);
@@ -230,7 +236,7 @@ final class EdgesOfCharts {
 
         s.says("-1 - p: as soonest().");
         each("crossed", Check::crossed, new Object[][] {{"", -1}, {"01", -3}, {"3", -1}, {"0x", -2}, {"010", -3},
-            {"0120", -4}, {"012;", -4}});
+            {"0120", -4}, {"012;", -4}, {"x120", -1}});
         s.due("any of none", Check.crossed(new BumpsRiver(), "0"), -1);
     }
 

@@ -344,17 +344,29 @@ final class EdgesOfDays {
         s.due("undo() of " + call + ": it is as ahead of it", Check.state(river), before);
     }
 
+    /** A sheet is no act, so the next act that is undone leaves it: the state then. */
+    private static String otherPaces(BumpsRiver river, int v) {
+        river.sheet(2, 6, v, 0);
+        return Check.state(river);
+    }
+
     private void undo() {
         s.promise(16);
         s.says("The latest days(), scratches(), rests(), paces(), gap(), strokes() or week()");
         BumpsRiver river = Check.with("39;52;40");
         String state = Check.state(river);
         undone("days", river, river.days(3), 0, state);
+        state = otherPaces(river, 1);
         undone("scratches", river, river.scratches(0), 0, state);
+        state = otherPaces(river, 2);
         undone("rests", river, river.rests(0), 0, state);
+        state = otherPaces(river, 3);
         undone("paces", river, river.paces(0, 9), 0, state);
+        state = otherPaces(river, 4);
         undone("gap", river, river.gap(10), 0, state);
+        state = otherPaces(river, 5);
         undone("strokes", river, river.strokes(30), 0, state);
+        state = otherPaces(river, 6);
         undone("week", river, Check.week(river, "n3s0r1p11g12k13n2"), 0, state);
 
         s.says("(of 15 that are kept, the latest ones");
@@ -372,7 +384,7 @@ final class EdgesOfDays {
         s.says("such as were done;");
         river.scratches(river.at(2));
         river.rests(2);
-        river.paces(0, 3);
+        river.paces(0, river.boat(0, 0));
         river.paces(0, 10);
         river.gap(10);
         river.gap(31);

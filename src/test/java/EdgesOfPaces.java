@@ -161,6 +161,7 @@ final class EdgesOfPaces {
         river.gap(30);
         s.due("itself, so that it touches", river.helps(1, 1), 1);
         s.due("itself, so that it is not touched", Check.with("59;40").helps(0, 1), 0);
+        s.due("itself, tired by 1", Check.with("10;11", "(i=1)*(x=0)*20").helps(1, 1), 1);
         // boat 2, if it is rested, touches boat 1 before that one touches boat 0
         s.due("another one", Check.with("30;40;99", "p-x").helps(0, 1), 2);
         s.due("behind 30", helpsByDays("49;66;51", 1, 30), Check.with("49;66;51").helps(1, 30));

@@ -408,6 +408,8 @@ final class EdgesOfRaces {
         s.due("never", Check.with("10;50").round(), -2);
         roundIs("96;81;81;67;99;97", "p*(n<x)+i-x/2", 26, 14, -2);
         roundIs("19;61;75;62;12;27", "p+(x*n+i)*7/5-x*2", 10, 37, -2);
+        // on each of these 60 days they stand in another order
+        roundIs("62;78;78;92;80;95", "(p*n+x*i*3+n*n)/7", 11, 6, -2);
         BumpsRiver first = river("96;81;81;67;99;97", "p*(n<x)+i-x/2", 26, 14);
         String now = Check.order(first);
         first.days(60);

@@ -264,6 +264,9 @@ final class EdgesOfTerms {
         Check.ruled(two, "(i=1)*g/2");
         s.due("20 feet", two.lies(1, 1), 990);
         s.due("then 10 feet", two.lies(1, 2), 995);
+        Check.ruled(two, "g/2");
+        // the head goes 20 feet in each stroke, as there is none ahead of it
+        s.due("20 feet, then 30", two.lies(1, 1) + " " + two.lies(1, 2), "990 1005");
         // boat 2 touches boat 1 in stroke 1; then boat 3 has boat 0 ahead, 3 times 5 feet
         BumpsRiver four = Check.with("10;10;10;10", "(t=0)*(i=2)*5+(t>0)*(g=15)*9");
         four.gap(5);
@@ -277,6 +280,9 @@ final class EdgesOfTerms {
         Check.ruled(two, "(i=0)*b/2");
         s.due("20 feet", two.lies(0, 1), 1010);
         s.due("then 30 feet", two.lies(0, 2), 1025);
+        Check.ruled(two, "b/4");
+        // the last one goes 20 feet in each stroke, as there is none behind it
+        s.due("20 feet, then 5", two.lies(0, 1) + " " + two.lies(0, 2), "1005 1006");
         Check.ruled(four, "(t=0)*(i=2)*5+(t>0)*(b=15)*9");
         s.due("boat 0 behind stroke 1", four.lies(0, 1), 1000);
         s.due("boat 0 behind stroke 2", four.lies(0, 2), 1009);
