@@ -2,6 +2,10 @@ import java.io.IOException;
 import java.nio.charset.StandardCharsets;
 import java.nio.file.Files;
 import java.nio.file.Paths;
+import java.util.ArrayList;
+import java.util.List;
+import java.util.Map;
+import java.util.TreeMap;
 import java.util.regex.Matcher;
 import java.util.regex.Pattern;
 
@@ -9,6 +13,7 @@ import java.util.regex.Pattern;
 public final class LanguageTest {
     private static final Check CHECK = new Check("language");
     private static final int MOST_LINES = 60;
+    private static final int MOST_DEEP = 8;
     /** What must not stand in the code, each with the number of its rule. */
     private static final String[][] BARRED = {
         {"2", "->|::"},
@@ -37,8 +42,10 @@ public final class LanguageTest {
         while (thrown.find()) {
             CHECK.due("what the document lets a call throw", thrown.group(1), "NoSuchElementException");
         }
-        int methods = checkMethods(code);
-        CHECK.due("methods were seen", methods > 100, true);
+        Map<String, String> bodies = checkMethods(code);
+        CHECK.due("methods were seen", bodies.size() > 100, true);
+        checkWhatIsMade(bodies);
+        checkDepth(bodies);
         CHECK.finish();
     }
 
@@ -61,9 +68,9 @@ public final class LanguageTest {
         return found.toString();
     }
 
-    /** Rule 11: a method takes seven at most and has some sixty lines. */
-    private static int checkMethods(String code) {
-        int methods = 0;
+    /** Rule 11: a method takes seven at most and has some sixty lines. The bodies by the methods' names. */
+    private static Map<String, String> checkMethods(String code) {
+        Map<String, String> bodies = new TreeMap<>();
         Matcher matcher = METHOD.matcher(code);
         while (matcher.find()) {
             int end = code.indexOf("\n" + matcher.group(1) + "}\n", matcher.end());
@@ -73,8 +80,49 @@ public final class LanguageTest {
             CHECK.due("rule 11, lines of " + matcher.group(2), lines <= MOST_LINES ? "few" : "" + lines, "few");
             int taken = matcher.group(3).isBlank() ? 0 : matcher.group(3).split(",").length;
             CHECK.due("rule 11, what " + matcher.group(2) + " takes", taken <= 7, true);
-            methods++;
+            // methods of one name in several classes count as one that does what all of them do
+            bodies.merge(matcher.group(2), body.substring(body.indexOf('{')), String::concat);
         }
-        return methods;
+        return bodies;
+    }
+
+    /** Rule 12: rows are made by constructors, and used again by all calls. */
+    private static void checkWhatIsMade(Map<String, String> bodies) {
+        for (Map.Entry<String, String> each : bodies.entrySet()) {
+            boolean constructor = Character.isUpperCase(each.getKey().charAt(0));
+            Matcher made = Pattern.compile("(?<!throw )\\bnew \\w+").matcher(each.getValue());
+            CHECK.due("rule 12, " + each.getKey(), !constructor && made.find() ? made.group() : "makes nothing",
+                "makes nothing");
+        }
+    }
+
+    /** Rule 11: calls that are no recursion go at most eight deep, those of the library too. */
+    private static void checkDepth(Map<String, String> bodies) {
+        int deepest = 0;
+        for (String name : bodies.keySet()) {
+            List<String> chain = deepest(name, bodies, new ArrayList<>());
+            CHECK.due("rule 11, how deep calls go from " + name, chain.size() <= MOST_DEEP ? "fine" : chain.toString(),
+                "fine");
+            deepest = Math.max(deepest, chain.size());
+        }
+        CHECK.due("chains of calls were seen", deepest > 5, true);
+    }
+
+    private static List<String> deepest(String name, Map<String, String> bodies, List<String> open) {
+        List<String> longest = new ArrayList<>();
+        open.add(name);
+        Matcher call = Pattern.compile("\\b((Math|Integer)\\.)?(\\w+)\\(").matcher(bodies.get(name));
+        while (call.find()) {
+            List<String> chain = new ArrayList<>();
+            if (call.group(1) != null) {
+                chain.add(call.group());
+            } else if (bodies.containsKey(call.group(3)) && !open.contains(call.group(3))) {
+                chain = deepest(call.group(3), bodies, open);
+            }
+            longest = chain.size() > longest.size() ? chain : longest;
+        }
+        open.remove(open.size() - 1);
+        longest.add(0, name);
+        return longest;
     }
 }
